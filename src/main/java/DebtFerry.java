@@ -53,7 +53,7 @@ public final class DebtFerry {
         if (wrong != NONE) {
             return WRONG_BASE - wrong;
         }
-        ferry.becomeText(from, i);
+        ferry.takeText(from, i);
         return ferry.people;
     }
 
@@ -183,9 +183,8 @@ public final class DebtFerry {
         if (k < -1 || k >= MOST_PEOPLE) {
             return OUTSIDE;
         }
-        int all = ferry.everybody();
         ferry.findFewest();
-        int length = ferry.fewest[all];
+        int length = ferry.fewest[ferry.everybody()];
         if (length == NONE) {
             return NONE;
         }
@@ -665,7 +664,7 @@ public final class DebtFerry {
         }
 
         /** Takes a TEXT that has no FIRST FAULT. */
-        void becomeText(Sheet from, int i) {
+        void takeText(Sheet from, int i) {
             room = from.cells[i + 1] - '0';
             times = from.cells[i + 2] - '0';
             people = from.cells[i + 3] - '0';
@@ -703,7 +702,7 @@ public final class DebtFerry {
                 case BANKER:
                     return sum / 2;
                 case FRIEND:
-                    return Math.max(sum - 1, 0);
+                    return sum > 0 ? sum - 1 : 0;
                 default:
                     return sum;
             }
@@ -780,15 +779,16 @@ public final class DebtFerry {
                 fairLoad[set] = isFair(set);
                 fewest[set] = NONE;
                 for (int load = 1; load <= set; load++) {
-                    if (isFirstOf(load, set) && (fewest[set] == NONE || fewest[set ^ load] + 1 < fewest[set])) {
-                        fewest[set] = fewest[set ^ load] + 1;
+                    if (canCrossBy(load, set)) {
+                        int so = fewest[set ^ load] + 1;
+                        fewest[set] = fewest[set] == NONE ? so : Math.min(fewest[set], so);
                     }
                 }
             }
         }
 
         /** Whether a set can cross with this LOAD as one of its FAIR ones. */
-        boolean isFirstOf(int load, int set) {
+        boolean canCrossBy(int load, int set) {
             return (load & ~set) == 0 && fairLoad[load] && fewest[set ^ load] != NONE;
         }
 
@@ -805,7 +805,7 @@ public final class DebtFerry {
 
         int firstLoadOf(int set) {
             for (int load = 1; load <= set; load++) {
-                if (isFirstOf(load, set) && fewest[set ^ load] + 1 == fewest[set]) {
+                if (canCrossBy(load, set) && fewest[set ^ load] + 1 == fewest[set]) {
                     return load;
                 }
             }

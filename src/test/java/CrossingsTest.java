@@ -61,6 +61,9 @@ public final class CrossingsTest {
         DebtFerry y = Checks.on("o233,r0050,r0003,r0010");
         raised(y, 1, 3, 5, 0);
         raised(y, 2, 6, 3, 1);
+        DebtFerry five = Checks.on("o115,r009999,r000000,r000000,r000000,r000000");
+        raised(five, 4, 31, -9, -9);
+        raised(five, 4, 16, 1, 0);
         DebtFerry drifts = Checks.on("o132,f000,b000");
         raised(drifts, 0, 1, 2, 1);
         raised(drifts, 0, 3, 1, 1);

@@ -182,7 +182,9 @@ public final class LoadsTest {
         CHECKS.due("11 a cell that is no set, behind a FIRST WRONG", DebtFerry.OUTSIDE, x.loads(1, 1, 0, 2, 0));
         CHECKS.due("11 the same, what 1", DebtFerry.OUTSIDE, x.loads(1, 1, 0, 2, 1));
         CHECKS.due("11 a cell below 0", DebtFerry.OUTSIDE, x.loads(1, 1, 2, 2, 0));
-        CHECKS.due("11 other cells are not looked at", 1, x.loads(1, 1, 3, 1, 0));
+        CHECKS.due("11 cells ahead are not looked at", 1, x.loads(1, 1, 3, 1, 0));
+        Checks.row(x, 1, 1, 3, 32);
+        CHECKS.due("11 cells behind are not looked at", 1, x.loads(1, 1, 0, 1, 0));
         DebtFerry two = Checks.on("o132,r001,r000");
         Checks.row(two, 1, 1, 4);
         CHECKS.due("11 a set of PEOPLE that are not there", DebtFerry.OUTSIDE, two.loads(1, 1, 0, 1, 0));

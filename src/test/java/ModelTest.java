@@ -135,7 +135,7 @@ public final class ModelTest {
             case "lose": same(name, sheet); break;
             case "put": same(name, sheet, i, pick(3) == 0 ? (int) seed : pick(33)); break;
             case "cell": same(name, sheet, i, lane); break;
-            case "copy": same(name, sheet, i, pick(5) == 0 ? between(-1, 4) : sheet, between(-1, 5), between(-1, 4) + wild); break;
+            case "copy": same(name, sheet, i, pick(2) == 0 ? between(-1, 4) : sheet, between(-1, 5), between(-1, 4) + wild); break;
             case "river": same(name, sheet, lane, i, between(-2, 62)); break;
             default: throw new IllegalStateException(name);
         }

@@ -66,6 +66,9 @@ public final class RiverTest {
             x = new DebtFerry();
             Checks.write(x, 1, 2, text + "0");
             CHECKS.due("2 river of one more", -100 - text.length(), x.river(1, 2, 0, text.length() + 1));
+            Checks.write(x, 1, 2, text + ",r0");
+            CHECKS.due("2 river of a PERSON more", -100 - text.length(), x.river(1, 2, 0, text.length() + 3));
+            CHECKS.due("2 river of a comma more", -100 - text.length(), x.river(1, 2, 0, text.length() + 1));
             CHECKS.due("2 river without it", text.charAt(3) - '0', x.river(1, 2, 0, text.length()));
             for (int place = 0; place < text.length(); place++) {
                 spoil(text, place);
@@ -158,10 +161,12 @@ public final class RiverTest {
         CHECKS.due("2 cell of the SHEET", 111, x.cell(0, 0, 0));
         CHECKS.due("2 TRACE stays", 1, x.trace());
         CHECKS.due("2 river of five again", 5, Checks.take(x, FIVE));
-        CHECKS.due("2 owes(0, 1) as told", 0 + 1, x.owes(0, 1));
+        CHECKS.due("2 owes(0, 1) as told", 1, x.owes(0, 1));
         CHECKS.due("2 lame of 0 as told", 0, x.ofPerson(0, 1));
         CHECKS.due("2 lame of 1 as told", 1, x.ofPerson(1, 1));
         CHECKS.due("2 lame of 2 as told", 0, x.ofPerson(2, 1));
+        CHECKS.due("2 river of none who is lame", 2, Checks.take(x, "o112,r003,f050"));
+        CHECKS.due("2 lame of 1 anew", 0, x.ofPerson(1, 1));
     }
 
     private static void riverRefusedChangesNothing() {
