@@ -1,3 +1,5 @@
+import java.util.Arrays;
+
 /** Counts answers that are due and prints those that are not as due. */
 final class Checks {
     private final String name;
@@ -15,6 +17,11 @@ final class Checks {
         }
         failed++;
         System.out.println(name + ": " + call + " answered " + got + ", due is " + want);
+    }
+
+    /** One call by name, under the sentence of the document that it is about. */
+    void answers(String sentence, long want, DebtFerry x, String name, int... a) {
+        due(sentence + ": " + name + Arrays.toString(a), want, Calls.of(x, name, a));
     }
 
     void holds(String what, boolean isSo) {
@@ -44,7 +51,10 @@ final class Checks {
 
     static DebtFerry on(String text) {
         DebtFerry x = new DebtFerry();
-        take(x, text);
+        // A test whose own TEXT is wrong would tell of nothing but refusals.
+        if (take(x, text) < 0) {
+            throw new IllegalStateException("no TEXT: " + text);
+        }
         return x;
     }
 

@@ -208,7 +208,8 @@ final class FerryModel {
     private int[] taken(int k, int lane, int i, int n) {
         Object row = as(sheets[k], lane);
         int length = Array.getLength(row);
-        int[] out = new int[n];
+        // No row has more than 60 cells, so more of them run into its end ahead of this one's.
+        int[] out = new int[Math.min(n, 60)];
         if (i < 0 || i > length) {
             throw new IndexOutOfBoundsException();
         }

@@ -143,43 +143,7 @@ public final class ModelTest {
 
     private void same(String name, int... a) {
         calls++;
-        long got = called(name, a);
+        long got = Calls.of(real, name, a);
         CHECKS.due("run " + run + ", call " + calls + ": " + name + Arrays.toString(a), model.call(name, a), got);
-    }
-
-    private long called(String name, int[] a) {
-        switch (name) {
-            case "river": return real.river(a[0], a[1], a[2], a[3]);
-            case "ofPerson": return real.ofPerson(a[0], a[1]);
-            case "owes": return real.owes(a[0], a[1]);
-            case "lend": return real.lend(a[0], a[1], a[2]);
-            case "count": return real.count(a[0]);
-            case "build": return real.build(a[0]);
-            case "debt": return real.debt(a[0], a[1]);
-            case "pullers": return real.pullers(a[0]);
-            case "fair": return real.fair(a[0]);
-            case "loads": return real.loads(a[0], a[1], a[2], a[3], a[4]);
-            case "cross": return real.cross(a[0]);
-            case "loan": return real.loan(a[0], a[1], a[2]);
-            case "forgave": return real.forgave(a[0]);
-            case "reading": return real.reading(a[0], a[1]);
-            case "back": return real.back(a[0]);
-            case "notes": return real.notes(a[0], a[1]);
-            case "kinds": return real.kinds(a[0]);
-            case "often": return real.often();
-            case "odds": return real.odds(a[0], a[1], a[2]);
-            case "sheet": return real.sheet(a[0], a[1], a[2]);
-            case "lose": return real.lose(a[0]);
-            case "put": return real.put(a[0], a[1], a[2]);
-            case "cell": return real.cell(a[0], a[1], a[2]);
-            case "copy": return real.copy(a[0], a[1], a[2], a[3], a[4]);
-            case "tell": return real.tell(a[0]);
-            case "hail": return real.hail(a[0]);
-            case "as": return real.as(a[0], a[1]);
-            case "trace": return real.trace();
-            case "fault": return real.fault();
-            case "many": return real.many(a[0]);
-            default: throw new IllegalStateException(name);
-        }
     }
 }
