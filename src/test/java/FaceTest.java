@@ -6,6 +6,8 @@ import java.nio.file.Files;
 import java.nio.file.Path;
 import java.util.Set;
 import java.util.TreeSet;
+import java.util.regex.Matcher;
+import java.util.regex.Pattern;
 
 /** The public face, and the rules of LANGUAGE.md that can be seen from outside or by words. */
 public final class FaceTest {
@@ -52,9 +54,14 @@ public final class FaceTest {
             found.add(signature(m));
         }
         CHECKS.holds("methods " + found, due.equals(found));
+        for (Class<?> c : DebtFerry.class.getDeclaredClasses()) {
+            for (Method m : c.getDeclaredMethods()) {
+                hidden.add(m.getName());
+            }
+        }
         for (String s : found) {
             String name = s.substring(s.indexOf(' ') + 1, s.indexOf('('));
-            CHECKS.holds("no private method is named " + name, !hidden.contains(name));
+            CHECKS.holds("rule 1: no private method, nor one of a class inside, is named " + name, !hidden.contains(name));
         }
     }
 
@@ -80,13 +87,28 @@ public final class FaceTest {
             if (!Modifier.isPrivate(f.getModifiers())) {
                 shown.add(f.getName());
             }
-            CHECKS.holds(f.getName() + " is final, if static",
-                !Modifier.isStatic(f.getModifiers()) || Modifier.isFinal(f.getModifiers()));
         }
         CHECKS.holds("fields " + shown, shown.equals(Set.of("UNKNOWN", "OUTSIDE", "STATE", "FULL", "NONE", "LOST")));
         for (Class<?> c : DebtFerry.class.getDeclaredClasses()) {
             CHECKS.holds(c.getName() + " is static", Modifier.isStatic(c.getModifiers()));
             CHECKS.holds(c.getName() + " is hidden", !Modifier.isPublic(c.getModifiers()) && !Modifier.isProtected(c.getModifiers()));
+            sizes(c);
+        }
+        sizes(DebtFerry.class);
+        CHECKS.holds("rule 11: at most some twelve classes", DebtFerry.class.getDeclaredClasses().length < 12);
+    }
+
+    /** Rules 5 and 11, of one class. */
+    private static void sizes(Class<?> c) {
+        int own = 0;
+        for (Field f : c.getDeclaredFields()) {
+            boolean isStatic = Modifier.isStatic(f.getModifiers());
+            own += isStatic ? 0 : 1;
+            CHECKS.holds("rule 5: " + f + " is final, if static", !isStatic || Modifier.isFinal(f.getModifiers()));
+        }
+        CHECKS.holds("rule 11: at most some twenty fields in " + c.getName(), own <= 20);
+        for (Method m : c.getDeclaredMethods()) {
+            CHECKS.holds("rule 11: at most seven parameters of " + m, m.getParameterCount() <= 7);
         }
     }
 
@@ -97,5 +119,29 @@ public final class FaceTest {
             CHECKS.holds("no word " + word, !code.matches("(?s).*\\b" + word + "\\b.*"));
         }
         CHECKS.holds("no lambda, no method reference", !code.contains("->") && !code.contains("::"));
+        library(code);
+        newOnes(code);
+    }
+
+    /** Rule 4: of the library the class uses these alone, all of which stand in the rule. */
+    private static void library(String code) {
+        Set<String> used = new TreeSet<>();
+        Matcher of = Pattern.compile("\\b([A-Z]\\w*)\\.([A-Za-z]\\w*)").matcher(code);
+        while (of.find()) {
+            used.add(of.group());
+        }
+        used.removeAll(Set.of("Text.firstFault", "Text.kindOf"));
+        CHECKS.holds("rule 4: the library is used by " + used,
+            used.equals(Set.of("Integer.bitCount", "Long.MIN_VALUE", "Math.min", "System.arraycopy")));
+    }
+
+    /** Rule 12, the plainest way: nothing is made but with the object itself. */
+    private static void newOnes(String code) {
+        int from = code.indexOf("public DebtFerry()");
+        int to = code.indexOf("public int river(");
+        CHECKS.holds("the constructor stands ahead of the calls", from >= 0 && from < to);
+        String calls = code.substring(0, Math.max(from, 0)) + code.substring(Math.max(to, 0));
+        String rest = calls.replaceAll("final [\\w\\[\\]]+ \\w+ = new [^;]*;", " ");
+        CHECKS.holds("rule 12: no call makes an object", !rest.matches("(?s).*\\b(new|clone|copyOf|append)\\b.*"));
     }
 }
